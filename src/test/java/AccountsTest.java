@@ -94,6 +94,12 @@ public final class AccountsTest {
         check.same("ten accounts", x.many(0), 10);
         check.refused("the eleventh account", x, Check.STATE, () -> x.account(0, 0));
         check.refused("account: argument ahead of state", x, Check.ARGUMENT, () -> x.account(5, 0));
+        check.refused("rate with ten accounts", x, Check.STATE, () -> x.rate(3, 9));
+        Tollgate z = new Tollgate();
+        for (int i = 0; i < 10; i++) {
+            z.account(0, 0);
+        }
+        check.same("rate with ten accounts of another currency", z.rate(3, 9), 1000);
         Tollgate y = Ledgers.ofAllKinds();
         check.same("no floor at first: far below 0 can be posted",
                 Ledgers.post(y, 0, 0, 0, -1000000, 4, 1000000), 0);

@@ -210,12 +210,15 @@ public final class ClosingTest {
         x.line(2, 2, -300);
         check.same("matched", x.match(2, 0), 3);
         x.match(4, 0);
+        x.line(0, 6, 9);
+        x.match(0, 0);
         check.same("the closing's leg is matched", x.ofLeg(3, 0, 3), 0);
         x.open();
         check.same("its line is not any more", x.matched(0), -1);
         check.same("nor that of the other account", x.matched(2), -1);
         check.same("nor the leg", x.ofLeg(3, 0, 3), -1);
         check.same("other lines are", x.matched(1), 4);
+        check.same("and the leg behind the closing's last one", x.ofLeg(4, 0, 3), 4);
         check.same("and others", x.matched(3), 1);
         check.same("lines left", x.left(2, 1), 1);
         check.same("a leg that is gone is not left", x.left(2, 2), 0);

@@ -241,6 +241,14 @@ public final class EntriesTest {
         Ledgers.drafted(x, 0, 0, 0, -401, 3, 401);
         check.same("below the floor", x.reason(), 5);
         check.refused("post below the floor", x, Check.STATE, x::post);
+        Tollgate y = Ledgers.ofAllKinds();
+        Ledgers.post(y, 364, 0, 0, 50, 4, -50);
+        y.floor(0, 50);
+        Ledgers.drafted(y, 0, 0, 0, -1, 3, 1);
+        check.same("legs of the last day are in the stand", y.reason(), 5);
+        Ledgers.post(y, 0, 0, 0, 1, 3, -1);
+        Ledgers.drafted(y, 0, 0, 0, -1, 3, 1);
+        check.same("legs of any day as well", y.reason(), 0);
     }
 
     private static void floorsOfOtherKinds() {

@@ -50,6 +50,14 @@ public final class HoldsTest {
         check.refused("hold: argument ahead of state", x, Check.ARGUMENT, () -> x.hold(0, 0, 5));
         x.letGo(0);
         check.same("hold again", x.hold(0, 800, 5), 1);
+        x.pass(6);
+        check.same("hold, as the other has ended", x.hold(0, 800, 6), 2);
+        Tollgate y = Ledgers.ofAllKinds();
+        y.account(0, 0);
+        y.floor(0, 0);
+        y.hold(5, 40, 3);
+        check.same("a hold on another account", y.told(5, 3), 40);
+        check.same("is not held on this one", y.told(0, 3), 0);
     }
 
     private static void holdLimit() {

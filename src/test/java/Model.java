@@ -59,6 +59,31 @@ final class Model {
     private int today = 0;
     private int locked = -1;
 
+    int entriesEver() {
+        return entries.size();
+    }
+
+    int holdsEver() {
+        return holds.size();
+    }
+
+    /** The number of an account of that kind and, if there is one, the currency 0; any number without one. */
+    int someOfKind(int kind, int otherwise) {
+        return accounts.stream().filter(a -> a.kind == kind)
+                .min(Comparator.comparingInt(a -> a.currency)).map(a -> a.number).orElse(otherwise);
+    }
+
+    /** The next account behind this one, around the end, that has its currency. */
+    int nextAlike(int number) {
+        for (int step = 1; in(number, 0, accounts.size() - 1) && step < accounts.size(); step++) {
+            int next = (number + step) % accounts.size();
+            if (accounts.get(next).currency == accounts.get(number).currency) {
+                return next;
+            }
+        }
+        return number;
+    }
+
     private static void index(boolean ok) {
         if (!ok) {
             throw new IndexOutOfBoundsException();

@@ -50,6 +50,15 @@ public final class ModelTest {
         return usual(0, Math.max(0, model.many(0) - 1));
     }
 
+    private int accountOf(int kind) {
+        return pick(12) == 0 ? account() : model.someOfKind(kind, account());
+    }
+
+    /** Mostly a number that is there, at times the one behind the last. */
+    private int numberBelow(int count) {
+        return usual(0, Math.max(0, pick(12) == 0 ? count : count - 1));
+    }
+
     private int day() {
         return pick(3) > 0 ? usual(0, 12) : usual(Math.max(0, model.many(4) - 3), Math.min(364, model.many(4) + 3));
     }
@@ -60,6 +69,9 @@ public final class ModelTest {
 
     private void go() {
         setUp();
+        if (run % 4 == 0) {
+            fill();
+        }
         while (told.size() < CALLS && !isWrong) {
             step();
             if (told.size() % 16 == 0) {
@@ -74,11 +86,24 @@ public final class ModelTest {
             int rate = new int[] {1000, 1500, 333, 1, 100000, 2499}[pick(6)];
             ask("rate(" + c + ", " + rate + ")", () -> ledger.rate(c, rate), () -> model.rate(c, rate));
         }
-        for (int i = 0; i < 2 + pick(8); i++) {
-            int kind = i < 5 && pick(2) == 0 ? i : usual(0, 4);
+        int count = 3 + pick(7);
+        for (int i = 0; i < count; i++) {
+            int kind = i < 5 && pick(4) > 0 ? (4 + i) % 5 : usual(0, 4);
             int currency = pick(3) == 0 ? usual(0, 3) : 0;
             ask("account(" + kind + ", " + currency + ")",
                     () -> ledger.account(kind, currency), () -> model.account(kind, currency));
+        }
+    }
+
+    /** So that the run comes to 60 entries. */
+    private void fill() {
+        ask("draft(0, 1)", () -> ledger.draft(0, 1), () -> model.draft(0, 1));
+        leg(0, 3);
+        leg(0, -3);
+        ask("post()", ledger::post, model::post);
+        int times = 30 + pick(28);
+        for (int i = 0; i < times; i++) {
+            ask("turnBack(0)", () -> ledger.turnBack(0), () -> model.turnBack(0));
         }
     }
 
@@ -125,14 +150,15 @@ public final class ModelTest {
     }
 
     private void evenEntry() {
-        int d = day();
+        int d = pick(3) == 0 ? day() : Math.min(364, model.many(5) + 1 + pick(4));
         int note = usual(0, 999);
         ask("draft(" + d + ", " + note + ")", () -> ledger.draft(d, note), () -> model.draft(d, note));
         int pairs = 1 + pick(3);
         for (int i = 0; i < pairs; i++) {
             int amount = amount();
-            leg(account(), amount);
-            leg(account(), -amount + (pick(8) == 0 ? pick(5) - 2 : 0));
+            int first = account();
+            leg(first, amount);
+            leg(pick(4) == 0 ? account() : model.nextAlike(first), -amount + (pick(8) == 0 ? pick(5) - 2 : 0));
         }
         post();
     }
@@ -174,14 +200,15 @@ public final class ModelTest {
 
     private void holdsAndTurns() {
         int a = account();
-        int h = usual(0, 20);
-        int amount = usual(0, 6);
+        int h = numberBelow(model.holdsEver());
+        int amount = usual(1, 5);
         switch (pick(5)) {
             case 0:
             case 1:
                 int last = usual(model.many(4), Math.min(364, model.many(4) + 4));
-                ask("hold(" + a + ", " + amount + ", " + last + ")",
-                        () -> ledger.hold(a, amount, last), () -> model.hold(a, amount, last));
+                int of = accountOf(0);
+                ask("hold(" + of + ", " + amount + ", " + last + ")",
+                        () -> ledger.hold(of, amount, last), () -> model.hold(of, amount, last));
                 break;
             case 2:
                 ask("take(" + h + ", " + a + ", " + amount + ")",
@@ -191,18 +218,18 @@ public final class ModelTest {
                 ask("letGo(" + h + ")", () -> ledger.letGo(h), () -> model.letGo(h));
                 break;
             default:
-                int entry = usual(0, 60);
+                int entry = numberBelow(model.entriesEver());
                 ask("turnBack(" + entry + ")", () -> ledger.turnBack(entry), () -> model.turnBack(entry));
         }
     }
 
     private void closings() {
-        if (pick(2) == 0) {
+        if (pick(3) == 0) {
             ask("open()", ledger::open, model::open);
             return;
         }
-        int d = day();
-        int into = account();
+        int d = pick(6) == 0 ? day() : Math.min(model.many(4), model.many(5) + pick(4));
+        int into = accountOf(4);
         ask("close(" + d + ", " + into + ")", () -> ledger.close(d, into), () -> model.close(d, into));
     }
 
@@ -213,18 +240,42 @@ public final class ModelTest {
             ask("match(" + a + ", " + within + ")", () -> ledger.match(a, within), () -> model.match(a, within));
             return;
         }
-        int d = day();
-        int amount = amount();
-        ask("line(" + a + ", " + d + ", " + amount + ")",
-                () -> ledger.line(a, d, amount), () -> model.line(a, d, amount));
+        if (model.entriesEver() > 0 && pick(4) > 0) {
+            lineLikeAnEntry(pick(model.entriesEver()));
+        } else {
+            line(a, day(), amount());
+        }
+    }
+
+    /** A line near the entry's day: of one leg's amount, or that of two. */
+    private void lineLikeAnEntry(int entry) {
+        int legs = model.ofEntry(entry, 2);
+        if (legs == 0) {
+            return;
+        }
+        int leg = pick(legs);
+        int account = (int) model.ofLeg(entry, leg, 0);
+        long amount = model.ofLeg(entry, leg, 1);
+        int other = pick(model.entriesEver());
+        if (pick(2) == 0 && model.ofEntry(other, 2) > 0) {
+            amount += model.ofLeg(other, pick(model.ofEntry(other, 2)), 1);
+        }
+        int day = Math.max(0, Math.min(364, model.ofEntry(entry, 0) + pick(5) - 2));
+        line(account, day, (int) amount);
+    }
+
+    private void line(int account, int day, int amount) {
+        ask("line(" + account + ", " + day + ", " + amount + ")",
+                () -> ledger.line(account, day, amount), () -> model.line(account, day, amount));
     }
 
     private void asking() {
         int a = account();
         int d = day();
         int what = usual(0, 5);
-        int entry = usual(0, 30);
-        int leg = usual(0, 4);
+        int entry = numberBelow(model.entriesEver());
+        int leg = usual(0, 2);
+        int line = numberBelow(model.many(3));
         switch (pick(14)) {
             case 0:
                 ask("ofEntry", () -> ledger.ofEntry(entry, what), () -> model.ofEntry(entry, what));
@@ -236,7 +287,7 @@ public final class ModelTest {
                 ask("left", () -> ledger.left(a, what), () -> model.left(a, what));
                 break;
             case 3:
-                ask("matched", () -> ledger.matched(entry), () -> model.matched(entry));
+                ask("matched", () -> ledger.matched(line), () -> model.matched(line));
                 break;
             case 4:
                 ask("many", () -> ledger.many(what), () -> model.many(what));
