@@ -29,6 +29,13 @@ final class Check {
         }
     }
 
+    void same(String what, String got, String want) {
+        asked++;
+        if (!got.equals(want)) {
+            tell(what + " answered " + got + ", due is " + want);
+        }
+    }
+
     void holds(String what, boolean isSo) {
         asked++;
         if (!isSo) {
