@@ -124,6 +124,7 @@ public final class AccountsEdgesTest {
             return x;
         }, Edges.STATE, x -> x.rate(3, 9));
         edges.answers("rate: accounts of 0 alone", Ledgers::ofAllKinds, 1000, x -> x.rate(1, 9));
+        edges.answers("rate: ten accounts of 0 alone", () -> withAccounts(10), 1000, x -> x.rate(1, 9));
     }
 
     // The worth of a leg: to the nearest; of two as near, the one farther from 0

@@ -270,6 +270,11 @@ public final class AskingEdgesTest {
             edges.tells("ofKind: worths of two accounts of " + kind, made, 6, x -> x.ofKind(k));
             edges.tells("ofKind: of the kind behind " + kind, made, -6, x -> x.ofKind((k + 1) % 5));
         }
+        for (int kind = 0; kind <= 4; kind++) {
+            int k = kind;
+            edges.tells("ofKind: ten accounts, " + kind, AskingEdgesTest::withTenAccounts, 11 * (kind - 2),
+                    x -> x.ofKind(k));
+        }
         edges.tells("ofKind: above int", () -> Ledgers.earnedAboveInt(1), Ledgers.ABOVE_INT, x -> x.ofKind(0));
         edges.tells("ofKind: below int", () -> Ledgers.earnedAboveInt(1), -Ledgers.ABOVE_INT, x -> x.ofKind(2));
         edges.tells("ofKind: closed", () -> Ledgers.closedAboveInt(1), 0, x -> x.ofKind(2));
@@ -280,6 +285,17 @@ public final class AskingEdgesTest {
             x.open();
             return x;
         }, 0, x -> x.ofKind(4));
+    }
+
+    /** Accounts k and k + 5 are of the kind k, and their balances are 10 * (k - 2) and k - 2. */
+    private static Tollgate withTenAccounts() {
+        Tollgate x = Ledgers.ofAllKinds();
+        for (int kind = 0; kind <= 4; kind++) {
+            x.account(kind, 0);
+        }
+        Ledgers.post(x, 0, 0, 0, -20, 1, -10, 3, 10, 4, 20);
+        Ledgers.post(x, 0, 0, 5, -2, 6, -1, 8, 1, 9, 2);
+        return x;
     }
 
     // Promise 27
@@ -337,6 +353,7 @@ public final class AskingEdgesTest {
             Ledgers.post(x, 0, 0, 2, -10, 3, 7, 0, 3);
             return x;
         }, 0, 0);
+        earned("of ten accounts", -11, AskingEdgesTest::withTenAccounts, 0, 0);
         earned("above int", Ledgers.ABOVE_INT, () -> Ledgers.earnedAboveInt(1), 0, 0);
         earned("below int", -Ledgers.ABOVE_INT, () -> Ledgers.earnedAboveInt(-1), 0, 0);
         earned("worths, each rounded", 2, () -> {

@@ -184,8 +184,10 @@ public final class ClosingEdgesTest {
 
     // "if the sum of the WORTHS of these is not 0"
     private static void closeWorthsOfZero() {
-        edges.answers("close: worth 0, no leg for the account", () -> rated(3, 499), 1, x -> x.ofEntry(x.close(0, 0), 2));
-        edges.answers("close: worth 1, a leg for the account", () -> rated(3, 500), 2, x -> x.ofEntry(x.close(0, 0), 2));
+        edges.answers("close: worth 0, no leg for the account", () -> rated(3, 499), 1,
+                x -> x.ofEntry(x.close(0, 0), 2));
+        edges.answers("close: worth 1, a leg for the account", () -> rated(3, 500), 2,
+                x -> x.ofEntry(x.close(0, 0), 2));
         edges.answers("close: its amount", () -> rated(3, 500), 1, x -> x.ofLeg(x.close(0, 0), 1, 1));
         edges.answers("close: worths of two are 0 together", () -> rated(3, 1000, 1, -2), 2,
                 x -> x.ofEntry(x.close(0, 0), 2));
@@ -390,10 +392,13 @@ public final class ClosingEdgesTest {
         freed("the leg of two that is not gone", -1, x -> x.ofLeg(2, 0, 3));
         freed("a line of another entry stays", 1, x -> x.matched(2));
         freed("so does its leg", 2, x -> x.ofLeg(1, 1, 3));
+        freed("the leg behind the closing's last one stays", 4, x -> x.matched(3));
+        freed("so does that leg's line", 3, x -> x.ofLeg(4, 0, 3));
+        freed("the leg ahead of the closing's first one stays", 4, x -> x.ofLeg(2, 1, 3));
         freed("lines left of the first account", 1, x -> x.left(2, 1));
         freed("lines left of the second account", 1, x -> x.left(3, 1));
         freed("legs left of the second account", 1, x -> x.left(3, 2));
-        freed("the free leg can be matched", 3, x -> {
+        freed("the free leg can be matched", 5, x -> {
             x.line(3, 5, 7);
             x.match(3, 0);
             return x.ofLeg(2, 0, 3);
@@ -411,7 +416,10 @@ public final class ClosingEdgesTest {
         });
     }
 
-    /** Line 0 is matched with a leg of the closing (entry 3), line 1 with one of entry 2 and one of the closing. */
+    /**
+     * Line 0 is matched with a leg of the closing (entry 3), line 1 with one of entry 2 and one of the closing; the
+     * legs just ahead of those of the closing and just behind them are on account 0, and are matched too.
+     */
     private static Tollgate matchedClosing() {
         Tollgate x = withResults();
         Ledgers.post(x, 5, 0, 3, 7, 0, -7);
@@ -419,8 +427,12 @@ public final class ClosingEdgesTest {
         x.line(2, 5, 300);
         x.line(3, 5, -100);
         x.line(3, 3, 100);
+        Ledgers.post(x, 6, 0, 0, 9, 4, -9);
+        x.line(0, 6, 9);
+        x.line(0, 5, -7);
         x.match(2, 0);
         x.match(3, 0);
+        x.match(0, 0);
         return x;
     }
 

@@ -39,8 +39,10 @@ public final class EntriesEdgesTest {
     private static void draftArguments() {
         edges.range("draft: day", Tollgate::new, 0, 364, Edges.ARGUMENT, (x, day) -> x.draft(day, 0));
         edges.range("draft: note", Tollgate::new, 0, 999, Edges.ARGUMENT, (x, note) -> x.draft(0, note));
-        edges.range("draft: day, with one there", () -> withLegs(2), 0, 364, Edges.ARGUMENT, (x, day) -> x.draft(day, 0));
-        edges.range("draft: note, with one there", () -> withLegs(2), 0, 999, Edges.ARGUMENT, (x, note) -> x.draft(0, note));
+        edges.range("draft: day, with one there", () -> withLegs(2), 0, 364, Edges.ARGUMENT,
+                (x, day) -> x.draft(day, 0));
+        edges.range("draft: note, with one there", () -> withLegs(2), 0, 999, Edges.ARGUMENT,
+                (x, note) -> x.draft(0, note));
         edges.answers("draft: the last day is its day", Ledgers::ofAllKinds, 364,
                 x -> x.ofEntry(Ledgers.post(x, 364, 999, 0, 1, 4, -1), 0));
         edges.answers("draft: the last note is its note", Ledgers::ofAllKinds, 999,
@@ -326,7 +328,8 @@ public final class EntriesEdgesTest {
         reason("at the floor", 0, () -> drafted(withFloor(999), 0, 0, -1, 3, 1));
         reason("1 below the floor", 5, () -> drafted(withFloor(999), 0, 0, -2, 3, 2));
         reason("upwards, at the floor", 0, () -> drafted(withFloor(1000), 0, 0, 1, 3, -1));
-        reason("the account of the last leg", 5, () -> drafted(withFloor(1000), 0, 3, 1, 2, 1, 1, 1, 4, 1, 3, -3, 0, -1));
+        reason("the account of the last leg", 5,
+                () -> drafted(withFloor(1000), 0, 3, 1, 2, 1, 1, 1, 4, 1, 3, -3, 0, -1));
         reason("both legs on it", 0, () -> drafted(withFloor(1000), 0, 0, -1, 0, 1));
         reason("another account's floor", 0, () -> drafted(withFloor(1000), 0, 3, -1, 2, 1));
         for (int kind = 0; kind <= 4; kind++) {
@@ -340,9 +343,23 @@ public final class EntriesEdgesTest {
             x.floor(0, 100000);
             return drafted(x, 1, 0, 1000000, 4, -1000000);
         });
+        reason("accounts of the entry before, below their floors", 0,
+                () -> drafted(closedBelowFloors(), 1, 0, 5, 1, -5));
+        reason("one leg more, on one of them", 5, () -> drafted(closedBelowFloors(), 1, 0, 5, 1, -4, 4, -1));
         reason("below the floor till it is lifted to it", 5, () -> drafted(belowItsFloor(), 1, 3, 9, 0, -9));
         reason("lifted to the floor", 0, () -> drafted(belowItsFloor(), 1, 3, 10, 0, -10));
         reason("below its floor, not in the draft", 0, () -> drafted(belowItsFloor(), 1, 2, -10, 0, 10));
+    }
+
+    /** A closing of three legs that goes below the floor of each of its accounts. */
+    private static Tollgate closedBelowFloors() {
+        Tollgate x = Ledgers.ofAllKinds();
+        Ledgers.post(x, 0, 0, 2, -7, 3, 10, 0, -3);
+        x.floor(2, 7);
+        x.floor(3, 10);
+        x.floor(4, 0);
+        x.close(0, 4);
+        return x;
     }
 
     /** An account of that kind with the floor -7, and a draft of one leg of that amount on it. */
@@ -588,8 +605,10 @@ public final class EntriesEdgesTest {
 
     // Promise 12
     private static void ofEntryArguments() {
-        edges.range("ofEntry: entry", () -> Ledgers.withEntries(3), 0, 2, Edges.INDEX, (x, entry) -> x.ofEntry(entry, 0));
-        edges.range("ofEntry: what", () -> Ledgers.withEntries(3), 0, 3, Edges.ARGUMENT, (x, what) -> x.ofEntry(0, what));
+        edges.range("ofEntry: entry", () -> Ledgers.withEntries(3), 0, 2, Edges.INDEX,
+                (x, entry) -> x.ofEntry(entry, 0));
+        edges.range("ofEntry: what", () -> Ledgers.withEntries(3), 0, 3, Edges.ARGUMENT,
+                (x, what) -> x.ofEntry(0, what));
         edges.refused("ofEntry: index ahead of argument", () -> Ledgers.withEntries(3), Edges.INDEX,
                 x -> x.ofEntry(3, 4));
         edges.answers("ofEntry: the sixtieth", () -> Ledgers.withEntries(60), 2, x -> x.ofEntry(59, 2));

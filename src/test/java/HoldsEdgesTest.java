@@ -379,7 +379,8 @@ public final class HoldsEdgesTest {
             for (int what = 0; what <= 3; what++) {
                 int l = leg;
                 int w = what;
-                edges.answers("take: leg " + leg + ", " + what, made, due[leg][what], x -> x.ofLeg(x.take(0, 0, 3), l, w));
+                edges.answers("take: leg " + leg + ", " + what, made, due[leg][what],
+                        x -> x.ofLeg(x.take(0, 0, 3), l, w));
             }
         }
         int[] entry = {364, 0, 2, 0};

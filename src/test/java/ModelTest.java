@@ -392,7 +392,8 @@ public final class ModelTest {
 
     private void compare(String what, String got, String want) {
         told.add(what + " -> " + want);
-        if (isWrong) {
+        // What is answered behind the last call is free.
+        if (isWrong || told.size() > CALLS) {
             return;
         }
         if (got.equals(want)) {

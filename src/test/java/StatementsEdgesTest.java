@@ -209,11 +209,16 @@ public final class StatementsEdgesTest {
     private static void pairDaysAway() {
         for (int days : of(0, 1, 30)) {
             String within = ", within " + days;
-            matches("two, ahead, just as far" + within, days, of(100 - days, 2, 100 - days, 3), of(100, 5), of(0), of(0, 0));
-            matches("two, behind, just as far" + within, days, of(100 + days, 2, 100 + days, 3), of(100, 5), of(0), of(0, 0));
-            matches("two, ahead, 1 farther" + within, days, of(99 - days, 2, 99 - days, 3), of(100, 5), of(-1), of(-1, -1));
-            matches("two, behind, 1 farther" + within, days, of(101 + days, 2, 101 + days, 3), of(100, 5), of(-1), of(-1, -1));
+            twoOn("two, ahead, just as far" + within, days, 100 - days, true);
+            twoOn("two, behind, just as far" + within, days, 100 + days, true);
+            twoOn("two, ahead, 1 farther" + within, days, 99 - days, false);
+            twoOn("two, behind, 1 farther" + within, days, 101 + days, false);
         }
+    }
+
+    private static void twoOn(String edge, int within, int day, boolean fit) {
+        int[] ofLegs = fit ? of(0, 0) : of(-1, -1);
+        matches(edge, within, of(day, 2, day, 3), of(100, 5), of(ofLegs[0]), ofLegs);
     }
 
     // "have the same DAY"
@@ -248,14 +253,22 @@ public final class StatementsEdgesTest {
         edges.tells("its first leg", made, 0, x -> x.ofLeg(0, 0, 3));
         edges.tells("its other account's leg", made, -1, x -> x.ofLeg(0, 1, 3));
         edges.tells("its last leg", made, 0, x -> x.ofLeg(0, 2, 3));
+        edges.answers("two of one entry, one just behind the other", () -> {
+            Tollgate x = Ledgers.ofAllKinds();
+            Ledgers.post(x, 0, 0, 4, -7, 0, 3, 0, 4);
+            x.line(0, 0, 7);
+            return x;
+        }, 1, x -> x.match(0, 0));
     }
 
     private static void pairsInOrder() {
         matches("first and last, not the inner two", 0, of(5, 1, 5, 2, 5, 8, 5, 9), of(5, 10), of(0), of(0, -1, -1, 0));
         matches("the first of two that fit as the second", 0, of(5, 6, 5, 4, 5, 4), of(5, 10), of(0), of(0, 0, -1));
         matches("the first of two that fit as the first", 0, of(5, 4, 5, 4, 5, 6), of(5, 10), of(0), of(0, -1, 0));
-        matches("by entries, not by the nearest day", 9, of(9, 4, 9, 6, 5, 4, 5, 6), of(5, 10), of(0), of(0, 0, -1, -1));
-        matches("by entries, not by the smallest day", 9, of(9, 4, 5, 4, 5, 6, 9, 6), of(5, 10), of(0), of(0, -1, -1, 0));
+        matches("by entries, not by the nearest day", 9, of(9, 4, 9, 6, 5, 4, 5, 6), of(5, 10), of(0),
+                of(0, 0, -1, -1));
+        matches("by entries, not by the smallest day", 9, of(9, 4, 5, 4, 5, 6, 9, 6), of(5, 10), of(0),
+                of(0, -1, -1, 0));
         matches("the first two are too far", 3, of(9, 4, 9, 6, 5, 4, 5, 6), of(5, 10), of(2), of(-1, -1, 0, 0));
     }
 
@@ -264,7 +277,8 @@ public final class StatementsEdgesTest {
         matches("two for the line of the smaller day", 9, of(5, 4, 5, 6), of(6, 10, 5, 10), of(-1, 0), of(1, 1));
         matches("two for the smaller number", 9, of(5, 4, 5, 6), of(5, 10, 5, 10), of(0, -1), of(0, 0));
         matches("two and two", 9, of(5, 4, 5, 6, 5, 3, 5, 7), of(6, 10, 5, 10), of(2, 0), of(1, 1, 0, 0));
-        matches("a leg of two is not in another two", 9, of(5, 4, 5, 6, 5, 5), of(5, 10, 5, 11), of(0, -1), of(0, 0, -1));
+        matches("a leg of two is not in another two", 9, of(5, 4, 5, 6, 5, 5), of(5, 10, 5, 11), of(0, -1),
+                of(0, 0, -1));
     }
 
     private static void singlesAheadOfPairs() {
@@ -470,7 +484,8 @@ public final class StatementsEdgesTest {
 
     private static void leftAnswers() {
         left("nothing", Ledgers::ofAllKinds, 0, 0, 0, 0, 0);
-        left("nothing matched yet", () -> withLines(withLegs(0, 5, 0, 7, 0, -2), 0, 7, 0, -9, 0, 5, 0, 30), 4, 4, 3, 33, 10);
+        left("nothing matched yet", () -> withLines(withLegs(0, 5, 0, 7, 0, -2), 0, 7, 0, -9, 0, 5, 0, 30),
+                4, 4, 3, 33, 10);
         left("one leg and two", () -> {
             Tollgate x = withLines(withLegs(0, 5, 0, 7, 0, -2), 0, 7, 0, -9, 0, 3, 0, 30);
             x.match(0, 0);

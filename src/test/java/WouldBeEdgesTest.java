@@ -334,7 +334,8 @@ public final class WouldBeEdgesTest {
     // Promise 32: "which wraps around as a 64-bit integer"
     private static void digestWraps() {
         BigInteger ofNew = digestOf(Tollgate::new);
-        edges.answers("digest: that of a new ledger is above 63 bits", Tollgate::new, 1, x -> ofNew.bitLength() > 63 ? 1 : 0);
+        edges.answers("digest: that of a new ledger is above 63 bits", Tollgate::new, 1,
+                x -> ofNew.bitLength() > 63 ? 1 : 0);
         edges.tells("digest: wraps around", Tollgate::new, ofNew.longValue(), Tollgate::digest);
         BigInteger ofMuch = digestOf(WouldBeEdgesTest::rich);
         edges.answers("digest: that of much is far above it", Tollgate::new, 1, x -> ofMuch.bitLength() > 630 ? 1 : 0);
