@@ -345,6 +345,12 @@ public final class EntriesEdgesTest {
         });
         reason("accounts of the entry before, below their floors", 0,
                 () -> drafted(closedBelowFloors(), 1, 0, 5, 1, -5));
+        reason("the entry before had a third leg on it", 0, () -> {
+            Tollgate x = Ledgers.withThousand();
+            Ledgers.post(x, 0, 0, 3, 250, 2, 250, 0, -500);
+            x.floor(0, 400);
+            return drafted(x, 0, 0, -100, 3, 100);
+        });
         reason("one leg more, on one of them", 5, () -> drafted(closedBelowFloors(), 1, 0, 5, 1, -4, 4, -1));
         reason("below the floor till it is lifted to it", 5, () -> drafted(belowItsFloor(), 1, 3, 9, 0, -9));
         reason("lifted to the floor", 0, () -> drafted(belowItsFloor(), 1, 3, 10, 0, -10));
